@@ -130,11 +130,11 @@ public final class FlowShape {
         waiting[0] = 0;
         int top = 1;
         orderStart = blocks;
-        // Each step lays a block on the pile or takes one off, and each block once.
-        for (int step = 0; step < 2 * blocks && top > 0; step++) {
+        // Each step lays a block on the waiting pile or takes one off, and each block once.
+        for (int step = 0; step < 2 * blocks && top > 0 && orderStart > 0; step++) {
             int from = waiting[top - 1];
             int to = takeUnreachedTarget(from);
-            if (to < blocks) {
+            if (to < blocks && top < blocks) {
                 isReached[to] = true;
                 waiting[top] = to;
                 top++;
@@ -149,12 +149,14 @@ public final class FlowShape {
 
     /** The next target of a block that is not reached yet; MOST_BLOCKS if no more is left. */
     private int takeUnreachedTarget(int from) {
-        int to = targets.next(from, nextTarget[from]);
-        while (to < blocks && isReached[to]) {
-            to = targets.next(from, to + 1);
+        for (int to = targets.next(from, nextTarget[from]); to < blocks; to = targets.next(from, to + 1)) {
+            if (!isReached[to]) {
+                nextTarget[from] = to + 1;
+                return to;
+            }
         }
-        nextTarget[from] = to;
-        return to;
+        nextTarget[from] = blocks;
+        return MOST_BLOCKS;
     }
 
     /**
@@ -169,7 +171,7 @@ public final class FlowShape {
         findReached();
         startDominators();
         boolean changed = true;
-        // A round that changes something strikes out at least one of blocks * blocks.
+        // The first round leaves at most blocks * blocks; a later one that changes something strikes out some.
         for (int round = 0; round <= blocks * blocks && changed; round++) {
             changed = strikeOutDominators();
         }
